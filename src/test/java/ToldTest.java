@@ -6,6 +6,7 @@ public final class ToldTest {
     public static void main(String[] args) {
         of();
         told();
+        toldAnew();
         value();
         answer();
         prime();
@@ -53,6 +54,37 @@ public final class ToldTest {
         due.eq("8 is not beyond", y.told(7), 2);
         y.equal(-2);
         due.eq("3/2", y.told(7), 1);
+    }
+
+    /** What was found for the form as it was must not be told of the next one. */
+    private static void toldAnew() {
+        TwoLetterForms x = Due.form(1, 0, 0);
+        due.eq("x^2 = 1", x.told(3), 42);
+        due.eq("x^2 = 1", x.told(5), 1);
+        x.degree(3);
+        x.number(0, 1);
+        due.eq("x^3 = 1", x.told(3), 21);
+        x.equal(-8);
+        due.eq("x^3 = -8", x.answer(0, 0), 98);
+        x.window(1);
+        due.eq("x^3 = -8 in -1 .. 1", x.told(3), 0);
+        x.move(4);
+        x.equal(1);
+        due.eq("-x^3 = 1", x.answer(0, 0), 99);
+        x.turn(0, 1, 1, 0);
+        due.eq("-y^3 = 1", x.answer(0, 1), 99);
+        x.number(0, 1);
+        due.eq("x^3 - y^3 = 1", x.told(3), 2);
+        x.image();
+        x.equal(0);
+        due.eq("x^3 = y^3", x.told(3), 3);
+        x.undo();
+        due.eq("x^3 - y^3 = 1", x.told(3), 2);
+        due.eq("read", Due.read(x, "=0"), 1);
+        due.eq("x^3 = y^3", x.told(3), 3);
+        x.event(2, 1);
+        due.eq("after", x.after(0), 2);
+        due.eq("x^3 = y^3", x.told(5), 2);
     }
 
     private static void value() {
@@ -273,9 +305,19 @@ public final class ToldTest {
         // Behind 0: 99t - 1, 1/99 is 0, 99.
         due.eq("1/99", Due.form(0, 99, -1).part(1), 99);
         due.eq("1/99", Due.form(0, 99, -1).told(6), 2);
-        // 98t^2 - 99 ..: a great form of degree 4 goes beyond 1000000000 ahead of PART 7.
-        TwoLetterForms great = Due.form(97, 0, 0, 0, -99);
-        due.eq("great", great.told(6) < 8 ? 1 : 0, 1);
+        // A next PART beyond 99 ends it: behind 1, 50t^2 - 51 becomes -t^2 + 100t + 50, whose root is 100.49.
+        due.eq("100.49", Due.form(50, 0, -51).told(6), 1);
+        due.eq("99.49", Due.form(49, 1, -51).part(1), 99);
+        // Behind it stands a 0 of the row at 0, but 0 is no next PART.
+        due.eq("no next 0", Due.form(0, 50, 0, -51).told(6), 1);
+        // Here, of the row, just the first NUMBER goes beyond 1000000000, and behind it a 1 would come.
+        int[] parts = {1, 1, 16, 1, 6, 14};
+        TwoLetterForms great = Due.form(16, 25, -77, -86, 46);
+        due.eq("beyond", great.told(6), parts.length);
+        for (int k = 0; k < parts.length; k++) {
+            due.eq("beyond: part " + k, great.part(k), parts[k]);
+        }
+        due.eq("beyond: no more", great.part(parts.length), -5);
     }
 
     private static void convergent() {
