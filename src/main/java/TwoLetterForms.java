@@ -340,7 +340,7 @@ public final class TwoLetterForms {
         return between(n, -MOST_TURN, MOST_TURN);
     }
 
-    /** A divisor below 1 is no line to be above; the twos of a window are never so few. */
+    /** NO never comes of it: the twos of a window, which stand below the line, are 9 at least. */
     private static long lowest(long above, long below, int part) {
         long common = commonDivisor(Math.abs(above), below);
         if (common < 1) return NO;
