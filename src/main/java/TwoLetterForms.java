@@ -260,10 +260,9 @@ public final class TwoLetterForms {
         Tape row = tapeAt(tape);
         if (row == null) return NONE;
         if (!row.holdsNothing() && row.sort != SHORTS) return CAST;
-        // Behind this test i + k can't wrap around.
-        if (!row.has(i)) return NUMBER_SHIFT;
         Form form = now.equation.form;
         for (int k = 0; k <= form.degree; k++) {
+            // It can't wrap around: the place ahead is one of the row's.
             if (!row.has(i + k)) return NUMBER_SHIFT + k;
             if (row.get(i + k) != form.get(k)) return k;
         }
