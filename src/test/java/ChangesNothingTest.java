@@ -30,10 +30,10 @@ public final class ChangesNothingTest {
         x.book(-1, 0);
         x.book(0, 1);
         x.book(2, 2);
-        fill(x, 0, SHORTS, 1, 0, -2);
-        fill(x, 1, LONGS, 7, -8);
-        fill(x, 2, BYTES);
-        fill(x, 5, BOOLEANS, 1, 0, 1);
+        Due.fill(x, 0, SHORTS, 1, 0, -2);
+        Due.fill(x, 1, LONGS, 7, -8);
+        Due.fill(x, 2, BYTES);
+        Due.fill(x, 5, BOOLEANS, 1, 0, 1);
         return x;
     }
 
@@ -42,13 +42,6 @@ public final class ChangesNothingTest {
         TwoLetterForms x = withoutText();
         Due.feed(x, "a15;=6;t2");
         return x;
-    }
-
-    private static void fill(TwoLetterForms x, int tape, int sort, long... items) {
-        x.tape(tape, sort, items.length);
-        for (int i = 0; i < items.length; i++) {
-            x.item(tape, i, items[i]);
-        }
     }
 
     /** The same with rows and a TEXT that are full, and NUMBERS that any MOVE 0 or 1 brings beyond. */

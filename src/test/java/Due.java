@@ -99,6 +99,22 @@ final class Due {
         eq(what + ": part(" + parts.length + ")", x.part(parts.length), -5);
     }
 
+    /** A TAPE of a sort, with these items. */
+    static void fill(TwoLetterForms x, int tape, int sort, long... items) {
+        x.tape(tape, sort, items.length);
+        for (int i = 0; i < items.length; i++) {
+            x.item(tape, i, items[i]);
+        }
+    }
+
+    /** Items of a TAPE, and that there are no more. */
+    void row(String what, TwoLetterForms x, int tape, long... items) {
+        for (int i = 0; i < items.length; i++) {
+            eq(what + ": peek(" + tape + ", " + i + ")", x.peek(tape, i), items[i]);
+        }
+        eq(what + ": peek(" + tape + ", " + items.length + ")", x.peek(tape, items.length), TwoLetterForms.NO);
+    }
+
     static void feed(TwoLetterForms x, String text) {
         for (int i = 0; i < text.length(); i++) {
             x.feed(text.charAt(i));

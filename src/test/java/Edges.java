@@ -12,8 +12,6 @@ final class Edges {
         ChangesNothingTest.class);
 
     static final int LEAST = Integer.MIN_VALUE, MOST = Integer.MAX_VALUE;
-    static final int NONE = -1, BAD = -2, STATE = -3, FULL = -4, NOT_AS_MANY = -5;
-    static final int NOTHING = -11, CAST = -12, PLACE = -13, SIZE = -14;
     static final long NO = Long.MIN_VALUE;
 
     private Edges() {

@@ -97,6 +97,11 @@ public final class Promises10To19EdgesTest {
         x.degree(3);
         x.number(0, 1);
         due.eq("x^3 = -1", x.told(3), 5);
+        // Here each NUMBER becomes another at once.
+        TwoLetterForms all = Due.equation(1, 1, 1, 1, 1, 1, 1);
+        due.eq("x^4 + .. + y^4 = 1", all.told(3), 6);
+        all.move(4);
+        due.eq("-x^4 - .. - y^4 = 1", all.told(3), 0);
     }
 
     @Says(in = "Promise 11", words = "7 how many CONVERGENTS p, q are ANSWERS (as the two p, q).")

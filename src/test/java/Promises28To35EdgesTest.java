@@ -8,21 +8,6 @@ public final class Promises28To35EdgesTest {
         Edges.run(Promises28To35EdgesTest.class);
     }
 
-    /** A TAPE of a sort, with the items told. */
-    private static void fill(TwoLetterForms x, int tape, int sort, long... items) {
-        x.tape(tape, sort, items.length);
-        for (int i = 0; i < items.length; i++) {
-            x.item(tape, i, items[i]);
-        }
-    }
-
-    private static void row(Due due, String what, TwoLetterForms x, int tape, long... items) {
-        for (int i = 0; i < items.length; i++) {
-            due.eq(what + ": peek(" + tape + ", " + i + ")", x.peek(tape, i), items[i]);
-        }
-        due.eq(what + ": peek(" + tape + ", " + items.length + ")", x.peek(tape, items.length), NO);
-    }
-
     // ---- promise 28: judge
 
     @Says(in = "Promise 28", words = "JUDGED from place i of a TAPE on.")
@@ -209,21 +194,21 @@ public final class Promises28To35EdgesTest {
     static void p32AllItemsAre0Again(Due due) {
         TwoLetterForms x = new TwoLetterForms();
         for (int sort = BYTES; sort <= BOOLEANS; sort++) {
-            fill(x, 0, sort, 1, 1, 1, 1);
+            Due.fill(x, 0, sort, 1, 1, 1, 1);
             due.eq("the same length", x.tape(0, sort, 4), 1);
-            row(due, "the same length", x, 0, 0, 0, 0, 0);
-            fill(x, 0, sort, 1, 1, 1, 1);
+            due.row("the same length", x, 0, 0, 0, 0, 0);
+            Due.fill(x, 0, sort, 1, 1, 1, 1);
             x.tape(0, sort, 2);
             due.eq("shorter, then longer", x.tape(0, sort, 4), 1);
-            row(due, "shorter, then longer", x, 0, 0, 0, 0, 0);
-            fill(x, 0, sort, 1, 1);
+            due.row("shorter, then longer", x, 0, 0, 0, 0, 0);
+            Due.fill(x, 0, sort, 1, 1);
             x.tape(0, -1, 0);
             x.tape(0, sort, 2);
-            row(due, "nothing between", x, 0, 0, 0);
+            due.row("nothing between", x, 0, 0, 0);
         }
-        fill(x, 1, LONGS, 5);
+        Due.fill(x, 1, LONGS, 5);
         x.tape(0, BYTES, 3);
-        row(due, "another TAPE stays", x, 1, 5);
+        due.row("another TAPE stays", x, 1, 5);
     }
 
     @Says(in = "Promise 32", words = "or holds nothing (sort -1: n does not matter): 1.")
@@ -231,7 +216,7 @@ public final class Promises28To35EdgesTest {
         TwoLetterForms x = new TwoLetterForms();
         due.eq("nothing already", x.tape(0, -1, 0), 1);
         for (int n : new int[] {0, 1, 60, 61, -1, LEAST, MOST}) {
-            fill(x, 0, LONGS, 7, 8);
+            Due.fill(x, 0, LONGS, 7, 8);
             due.eq("tape(0, -1, " + n + ")", x.tape(0, -1, n), 1);
             due.eq("nothing", x.item(0, 0, 1), -11);
             due.eq("nothing", x.peek(0, 0), NO);
@@ -253,7 +238,7 @@ public final class Promises28To35EdgesTest {
     @Says(in = "Promise 32", words = "BAD: sort, n above 60;")
     static void p32SortsBelowAndAboveAndARowTooLong(Due due) {
         TwoLetterForms x = new TwoLetterForms();
-        fill(x, 0, LONGS, 7, 8);
+        Due.fill(x, 0, LONGS, 7, 8);
         for (int sort : new int[] {-2, 5, LEAST, MOST}) {
             due.eq("tape(0, " + sort + ", 1)", x.tape(0, sort, 1), -2);
         }
@@ -261,19 +246,19 @@ public final class Promises28To35EdgesTest {
             due.eq("tape(0, 0, " + n + ")", x.tape(0, 0, n), -2);
             due.eq("tape(0, 4, " + n + ")", x.tape(0, 4, n), -2);
         }
-        row(due, "refused", x, 0, 7, 8);
+        due.row("refused", x, 0, 7, 8);
     }
 
     @Says(in = "Promise 32", words = "SIZE.")
     static void p32ASizeBelow0(Due due) {
         TwoLetterForms x = new TwoLetterForms();
-        fill(x, 0, LONGS, 7, 8);
+        Due.fill(x, 0, LONGS, 7, 8);
         for (int n : new int[] {-1, -60, LEAST}) {
             for (int sort = BYTES; sort <= BOOLEANS; sort++) {
                 due.eq("tape(0, " + sort + ", " + n + ")", x.tape(0, sort, n), -14);
             }
         }
-        row(due, "refused", x, 0, 7, 8);
+        due.row("refused", x, 0, 7, 8);
     }
 
     // ---- promise 33: item
@@ -321,7 +306,7 @@ public final class Promises28To35EdgesTest {
         }
         becomes(due, BOOLEANS, 0, 0);
         TwoLetterForms x = new TwoLetterForms();
-        fill(x, 0, BOOLEANS, 1);
+        Due.fill(x, 0, BOOLEANS, 1);
         due.eq("back to 0", x.item(0, 0, 0), 1);
         due.eq("back to 0", x.peek(0, 0), 0);
     }
@@ -365,11 +350,11 @@ public final class Promises28To35EdgesTest {
     @Says(in = "Promise 33", words = "PLACE.")
     static void p33BelowTheFirstAndBehindTheLastPlace(Due due) {
         TwoLetterForms x = new TwoLetterForms();
-        fill(x, 0, INTS, 7, 8);
+        Due.fill(x, 0, INTS, 7, 8);
         for (int i : new int[] {-1, 2, 59, 60, LEAST, MOST}) {
             due.eq("item(0, " + i + ", 1)", x.item(0, i, 1), -13);
         }
-        row(due, "refused", x, 0, 7, 8);
+        due.row("refused", x, 0, 7, 8);
         x.tape(0, INTS, 0);
         due.eq("a row of none", x.item(0, 0, 1), -13);
         x.tape(0, INTS, 60);
@@ -394,7 +379,7 @@ public final class Promises28To35EdgesTest {
     @Says(in = "Promise 34", words = "NO: no such TAPE, nothing there, no such place.")
     static void p34BelowTheFirstAndBehindTheLast(Due due) {
         TwoLetterForms x = new TwoLetterForms();
-        fill(x, 0, LONGS, 7, 8);
+        Due.fill(x, 0, LONGS, 7, 8);
         for (int tape : new int[] {-1, 6, LEAST, MOST}) {
             due.eq("no TAPE " + tape, x.peek(tape, 0), NO);
         }
@@ -414,17 +399,17 @@ public final class Promises28To35EdgesTest {
     @Says(in = "Promise 35", words = "n items of a TAPE from i on come to another one (or the same) from j on, as they all were before: n.")
     static void p35FromNoneToAll(Due due) {
         TwoLetterForms x = new TwoLetterForms();
-        fill(x, 0, LONGS, 1, 2, 3, 4);
-        fill(x, 5, LONGS, 9, 9, 9, 9);
+        Due.fill(x, 0, LONGS, 1, 2, 3, 4);
+        Due.fill(x, 5, LONGS, 9, 9, 9, 9);
         due.eq("none", x.shift(0, 0, 5, 0, 0), 0);
-        row(due, "none", x, 5, 9, 9, 9, 9);
+        due.row("none", x, 5, 9, 9, 9, 9);
         due.eq("one, from the last to the first", x.shift(0, 3, 5, 0, 1), 1);
-        row(due, "one", x, 5, 4, 9, 9, 9);
+        due.row("one", x, 5, 4, 9, 9, 9);
         due.eq("one, from the first to the last", x.shift(0, 0, 5, 3, 1), 1);
-        row(due, "one", x, 5, 4, 9, 9, 1);
+        due.row("one", x, 5, 4, 9, 9, 1);
         due.eq("all", x.shift(0, 0, 5, 0, 4), 4);
-        row(due, "all", x, 5, 1, 2, 3, 4);
-        row(due, "where they came from", x, 0, 1, 2, 3, 4);
+        due.row("all", x, 5, 1, 2, 3, 4);
+        due.row("where they came from", x, 0, 1, 2, 3, 4);
         x.tape(0, LONGS, 60);
         x.tape(5, LONGS, 60);
         x.item(0, 59, 7);
@@ -435,14 +420,14 @@ public final class Promises28To35EdgesTest {
     @Says(in = "Promise 35", words = "n items of a TAPE from i on come to another one (or the same) from j on, as they all were before: n.")
     static void p35WithinOneRowAsTheyWereBefore(Due due) {
         TwoLetterForms x = new TwoLetterForms();
-        fill(x, 0, INTS, 1, 2, 3, 4, 5);
+        Due.fill(x, 0, INTS, 1, 2, 3, 4, 5);
         due.eq("one place on", x.shift(0, 0, 0, 1, 4), 4);
-        row(due, "one place on", x, 0, 1, 1, 2, 3, 4);
-        fill(x, 0, INTS, 1, 2, 3, 4, 5);
+        due.row("one place on", x, 0, 1, 1, 2, 3, 4);
+        Due.fill(x, 0, INTS, 1, 2, 3, 4, 5);
         due.eq("one place back", x.shift(0, 1, 0, 0, 4), 4);
-        row(due, "one place back", x, 0, 2, 3, 4, 5, 5);
+        due.row("one place back", x, 0, 2, 3, 4, 5, 5);
         due.eq("where they are", x.shift(0, 0, 0, 0, 5), 5);
-        row(due, "where they are", x, 0, 2, 3, 4, 5, 5);
+        due.row("where they are", x, 0, 2, 3, 4, 5, 5);
     }
 
     @Says(in = "Promise 35", words = "n items of a TAPE from i on come to another one (or the same) from j on, as they all were before: n.")
@@ -450,44 +435,44 @@ public final class Promises28To35EdgesTest {
         TwoLetterForms x = new TwoLetterForms();
         long[] items = {-128, -32768, LEAST, Long.MIN_VALUE, 1};
         for (int sort = BYTES; sort <= BOOLEANS; sort++) {
-            fill(x, 0, sort, items[sort], 0);
-            fill(x, 1, sort, 0, 1);
+            Due.fill(x, 0, sort, items[sort], 0);
+            Due.fill(x, 1, sort, 0, 1);
             due.eq("sort " + sort, x.shift(0, 0, 1, 0, 2), 2);
-            row(due, "sort " + sort, x, 1, items[sort], 0);
+            due.row("sort " + sort, x, 1, items[sort], 0);
         }
     }
 
     @Says(in = "Promise 35", words = "NONE: tapes;")
     static void p35BelowTheFirstAndBehindTheLastTape(Due due) {
         TwoLetterForms x = new TwoLetterForms();
-        fill(x, 0, LONGS, 1, 2);
-        fill(x, 5, LONGS, 3, 4);
+        Due.fill(x, 0, LONGS, 1, 2);
+        Due.fill(x, 5, LONGS, 3, 4);
         for (int tape : new int[] {-1, 6, LEAST, MOST}) {
             due.eq("from " + tape, x.shift(tape, 0, 0, 0, 1), -1);
             due.eq("to " + tape, x.shift(0, 0, tape, 0, 1), -1);
             due.eq("from and to " + tape, x.shift(tape, 0, tape, 0, 0), -1);
         }
-        row(due, "refused", x, 0, 1, 2);
-        row(due, "refused", x, 5, 3, 4);
+        due.row("refused", x, 0, 1, 2);
+        due.row("refused", x, 5, 3, 4);
     }
 
     @Says(in = "Promise 35", words = "NOTHING;")
     static void p35FromNothingOrToNothing(Due due) {
         TwoLetterForms x = new TwoLetterForms();
-        fill(x, 0, LONGS, 1, 2);
+        Due.fill(x, 0, LONGS, 1, 2);
         due.eq("from nothing", x.shift(1, 0, 0, 0, 1), -11);
         due.eq("to nothing", x.shift(0, 0, 1, 0, 1), -11);
         due.eq("from nothing to nothing", x.shift(1, 0, 2, 0, 1), -11);
         due.eq("none of nothing", x.shift(1, 0, 1, 0, 0), -11);
         due.eq("none to nothing", x.shift(0, 0, 1, 0, 0), -11);
-        row(due, "refused", x, 0, 1, 2);
+        due.row("refused", x, 0, 1, 2);
     }
 
     @Says(in = "Promise 35", words = "CAST: of unlike sorts;")
     static void p35EachTwoUnlikeSorts(Due due) {
         TwoLetterForms x = new TwoLetterForms();
         for (int sort = BYTES; sort <= BOOLEANS; sort++) {
-            fill(x, sort, sort, 1, 0);
+            Due.fill(x, sort, sort, 1, 0);
         }
         for (int sort = BYTES; sort <= BOOLEANS; sort++) {
             for (int other = BYTES; other <= BOOLEANS; other++) {
@@ -495,7 +480,7 @@ public final class Promises28To35EdgesTest {
                 due.eq("from sort " + sort + " to " + other, x.shift(sort, 0, other, 1, 1), want);
                 if (sort != other) due.eq("none from sort " + sort + " to " + other, x.shift(sort, 0, other, 0, 0), -12);
             }
-            row(due, "of like sorts", x, sort, 1, 1);
+            due.row("of like sorts", x, sort, 1, 1);
             x.item(sort, 1, 0);
         }
         x.tape(0, BYTES, 0);
@@ -506,8 +491,8 @@ public final class Promises28To35EdgesTest {
     @Says(in = "Promise 35", words = "PLACE: n, i or j is below 0, or beyond either's end.")
     static void p35BelowThePlaces(Due due) {
         TwoLetterForms x = new TwoLetterForms();
-        fill(x, 0, LONGS, 1, 2, 3);
-        fill(x, 1, LONGS, 4, 5);
+        Due.fill(x, 0, LONGS, 1, 2, 3);
+        Due.fill(x, 1, LONGS, 4, 5);
         for (int n : new int[] {-1, -2, LEAST}) {
             due.eq("n " + n, x.shift(0, 0, 1, 0, n), -13);
             due.eq("i " + n, x.shift(0, n, 1, 0, 1), -13);
@@ -516,15 +501,15 @@ public final class Promises28To35EdgesTest {
             due.eq("none, j " + n, x.shift(0, 0, 1, n, 0), -13);
             due.eq("n, i and j " + n, x.shift(0, n, 1, n, n), -13);
         }
-        row(due, "refused", x, 0, 1, 2, 3);
-        row(due, "refused", x, 1, 4, 5);
+        due.row("refused", x, 0, 1, 2, 3);
+        due.row("refused", x, 1, 4, 5);
     }
 
     @Says(in = "Promise 35", words = "PLACE: n, i or j is below 0, or beyond either's end.")
     static void p35BeyondEithersEnd(Due due) {
         TwoLetterForms x = new TwoLetterForms();
-        fill(x, 0, LONGS, 1, 2, 3);
-        fill(x, 1, LONGS, 4, 5);
+        Due.fill(x, 0, LONGS, 1, 2, 3);
+        Due.fill(x, 1, LONGS, 4, 5);
         due.eq("one beyond the end of the other", x.shift(0, 0, 1, 0, 3), -13);
         due.eq("one beyond the end of the other", x.shift(0, 0, 1, 1, 2), -13);
         due.eq("one beyond the end of the one", x.shift(0, 2, 1, 0, 2), -13);
@@ -535,17 +520,17 @@ public final class Promises28To35EdgesTest {
         due.eq("far too many", x.shift(0, 0, 1, 0, MOST), -13);
         due.eq("sums that would wrap around", x.shift(0, MOST, 1, MOST, MOST), -13);
         due.eq("sums that would wrap around", x.shift(0, 1, 1, 1, MOST), -13);
-        row(due, "refused", x, 0, 1, 2, 3);
-        row(due, "refused", x, 1, 4, 5);
+        due.row("refused", x, 0, 1, 2, 3);
+        due.row("refused", x, 1, 4, 5);
         due.eq("to the very end", x.shift(0, 1, 1, 0, 2), 2);
-        row(due, "to the very end", x, 1, 2, 3);
+        due.row("to the very end", x, 1, 2, 3);
     }
 
     @Says(in = "Promise 35", words = "PLACE: n, i or j is below 0, or beyond either's end.")
     static void p35NoneAtTheEndAndBeyondIt(Due due) {
         TwoLetterForms x = new TwoLetterForms();
-        fill(x, 0, LONGS, 1, 2, 3);
-        fill(x, 1, LONGS, 4, 5);
+        Due.fill(x, 0, LONGS, 1, 2, 3);
+        Due.fill(x, 1, LONGS, 4, 5);
         x.tape(2, LONGS, 0);
         due.eq("none from the end to the end", x.shift(0, 3, 1, 2, 0), 0);
         due.eq("none from beyond the end", x.shift(0, 4, 1, 0, 0), -13);
@@ -553,7 +538,7 @@ public final class Promises28To35EdgesTest {
         due.eq("none of a row of none", x.shift(2, 0, 2, 0, 0), 0);
         due.eq("one of a row of none", x.shift(2, 0, 0, 0, 1), -13);
         due.eq("none of a row of none, beyond it", x.shift(2, 1, 0, 0, 0), -13);
-        row(due, "none", x, 0, 1, 2, 3);
-        row(due, "none", x, 1, 4, 5);
+        due.row("none", x, 0, 1, 2, 3);
+        due.row("none", x, 1, 4, 5);
     }
 }

@@ -211,27 +211,20 @@ public final class TapeTest {
         return x;
     }
 
-    private static void row(String what, TwoLetterForms x, int tape, long... items) {
-        for (int i = 0; i < items.length; i++) {
-            due.eq(what + " " + i, x.peek(tape, i), items[i]);
-        }
-        due.eq(what + " end", x.peek(tape, items.length), NO);
-    }
-
     private static void shift() {
         TwoLetterForms x = counted();
         due.eq("to another", x.shift(0, 1, 1, 2, 2), 2);
-        row("to another", x, 1, 0, 0, 2, 3);
-        row("from it", x, 0, 1, 2, 3, 4, 5, 6);
+        due.row("to another", x, 1, 0, 0, 2, 3);
+        due.row("from it", x, 0, 1, 2, 3, 4, 5, 6);
         due.eq("ahead", x.shift(0, 0, 0, 1, 4), 4);
-        row("ahead", x, 0, 1, 1, 2, 3, 4, 6);
+        due.row("ahead", x, 0, 1, 1, 2, 3, 4, 6);
         due.eq("back", x.shift(0, 2, 0, 0, 4), 4);
-        row("back", x, 0, 2, 3, 4, 6, 4, 6);
+        due.row("back", x, 0, 2, 3, 4, 6, 4, 6);
         due.eq("none", x.shift(0, 6, 1, 4, 0), 0);
         due.eq("none", x.shift(0, 0, 1, 0, 0), 0);
         due.eq("all", x.shift(0, 0, 0, 0, 6), 6);
-        row("all", x, 0, 2, 3, 4, 6, 4, 6);
-        row("other", x, 1, 0, 0, 2, 3);
+        due.row("all", x, 0, 2, 3, 4, 6, 4, 6);
+        due.row("other", x, 1, 0, 0, 2, 3);
     }
 
     private static void shiftRefused() {
@@ -256,7 +249,7 @@ public final class TapeTest {
         due.eq("most", x.shift(0, MOST, 1, 0, MOST), -13);
         due.eq("most", x.shift(0, 1, 1, MOST, MOST), -13);
         due.eq("least", x.shift(0, 0, 1, 0, LEAST), -13);
-        row("refused changes nothing", x, 0, 1, 2, 3, 4, 5, 6);
-        row("refused changes nothing", x, 1, 0, 0, 0, 0);
+        due.row("refused changes nothing", x, 0, 1, 2, 3, 4, 5, 6);
+        due.row("refused changes nothing", x, 1, 0, 0, 0, 0);
     }
 }

@@ -1,7 +1,7 @@
 /** "Terms", part 3, "Answers", "In doubt" and the constants: a test for each sentence, and for each case at its edge. */
 public final class Terms3EdgesTest {
     private static final int LEAST = Edges.LEAST, MOST = Edges.MOST;
-    private static final int BYTES = 0, SHORTS = 1, INTS = 2, LONGS = 3, BOOLEANS = 4;
+    private static final int BYTES = 0, SHORTS = 1, LONGS = 3, BOOLEANS = 4;
 
     public static void main(String[] args) {
         Edges.run(Terms3EdgesTest.class);
