@@ -3,7 +3,7 @@ import java.util.function.ToLongFunction;
 
 /** "Answers": what is refused, and what is asked, changes nothing; a test for each call, on objects that hold something. */
 public final class ChangesNothingTest {
-    private static final int LEAST = Edges.LEAST, MOST = Edges.MOST;
+    private static final int LEAST = Edges.LEAST;
     private static final int BYTES = 0, SHORTS = 1, LONGS = 3, BOOLEANS = 4;
 
     public static void main(String[] args) {
